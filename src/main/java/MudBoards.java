@@ -252,11 +252,13 @@ public final class MudBoards {
             return OUTSIDE;
         }
         trial.copyFrom(shore);
-        for (int place = 0; place < n; place++) {
-            int doing = (int) (row / thousands(n - 1 - place) % 1000);
+        long unit = thousands(n - 1);
+        for (int place = 0; place < n && unit > 0; place++) {
+            int doing = (int) (row / unit % 1000);
             if (!isSo(doing / 100, doing / 10 % 10, doing % 10)) {
                 return place;
             }
+            unit /= 1000;
         }
         return NONE;
     }

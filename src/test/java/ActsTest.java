@@ -9,7 +9,9 @@ public final class ActsTest {
         dig();
         put();
         sell();
+        sellByTheWall();
         wetFinds();
+        wetAndOldLater();
         undo();
         rowOfActs();
         refusedChangesNothing();
@@ -130,6 +132,26 @@ public final class ActsTest {
         DUE.is("coins in all", x.sell(0), 10);
         DUE.is("coins of lark 0", x.lark(0, 2), 10);
         DUE.is("coins of all", x.count(10), 22);
+    }
+
+    private static void sellByTheWall() {
+        for (int cell = 0; cell < 12; cell++) {
+            char letter = (char) ('a' + cell);
+            MudBoards x = Due.onFlat("M000000000000F" + letter + "70L" + letter + "0");
+            x.dig(0, 0);
+            DUE.is("sell at " + letter, x.sell(0), cell < 4 ? 7 : MudBoards.STATE);
+        }
+    }
+
+    private static void wetAndOldLater() {
+        // five wet finds: those that are dug in an hour before are worth nothing
+        for (int find = 0; find < 5; find++) {
+            MudBoards x = Due.onFlat("M000000000000Fa52Fa52Fa52Fa52Fa52La0");
+            x.dig(0, find);
+            x.hour();
+            x.dig(0, (find + 1) % 5);
+            DUE.is("one of two is fresh", x.sell(0), 10);
+        }
     }
 
     private static void wetFinds() {

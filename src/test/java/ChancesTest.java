@@ -10,6 +10,7 @@ public final class ChancesTest {
         restsByTide();
         storms();
         seedAndSprings();
+        springsWalk();
         slots();
         counts();
         DUE.end();
@@ -132,6 +133,11 @@ public final class ChancesTest {
         DUE.is("drowned", x.rests(0, 1, 0), MudBoards.STATE);
         DUE.is("drowned", x.rests(1, 0, 1), MudBoards.STATE);
         DUE.is("drowned and outside", x.rests(1, 1, 1), MudBoards.OUTSIDE);
+        // lark 0 lives by going down alone, lark 1 at the corner by staying, or by ways that there are not
+        x = Due.onFlat("M000500000500W0W5Lf0Ld0");
+        DUE.is("how many", x.rests(0, 1, 0), 3);
+        DUE.is("the first", x.rests(0, 1, 1), 40);
+        DUE.is("the first, the other way round", x.rests(1, 0, 1), 4);
         // a board bears it, but what lies there is not bared: all ways are alike but those that drown
         x = Due.onFlat("M000000000000W0W1Fb90La1Lb1");
         DUE.is("not bared", x.rests(0, 1, 0), 25);
@@ -208,6 +214,37 @@ public final class ChancesTest {
         DUE.is("seed after thirty", x.seed(99), seed);
         DUE.is("the same seed, the same springs", x.springs(30), sum);
         DUE.is("acts", x.count(11), 0);
+    }
+
+    /** A seed whose first lot is the one that is wanted, and whose second is an hour. */
+    private static long seedForLotAndHour(int lot) {
+        for (long seed = 0; seed < 100000; seed++) {
+            long first = next(seed);
+            if ((first >>> 33) % 28 == lot && (next(first) >>> 33) % 28 >= 20) {
+                return seed;
+            }
+        }
+        return -1;
+    }
+
+    private static void springsWalk() {
+        // one lark at f is saved by one way alone; the others are safe at h
+        int[] refuges = {4, 6, 1, 9};
+        for (int lark = 0; lark < 4; lark++) {
+            for (int way = 1; way <= 4; way++) {
+                StringBuilder text = new StringBuilder("M000000050000W0W5");
+                text.setCharAt(1 + refuges[way - 1], '5');
+                for (int i = 0; i < 4; i++) {
+                    text.append(i == lark ? "Lf0" : "Lh0");
+                }
+                MudBoards x = Due.onFlat(text.toString());
+                for (int lot = 4 * lark; lot < 4 * lark + 4; lot++) {
+                    x.seed(seedForLotAndHour(lot));
+                    int saved = lot == 4 * lark + way - 1 ? 1 : 0;
+                    DUE.is("springs(2) with lot " + lot + ", way " + way, x.springs(2), 4 + 3 + saved);
+                }
+            }
+        }
     }
 
     private static void slots() {

@@ -118,6 +118,11 @@ public final class HoursTest {
         DUE.is("gets(0, 10, 0)", x.gets(0, 10, 0), MudBoards.OUTSIDE);
         DUE.is("gets(0, 1, 2)", x.gets(0, 1, 2), MudBoards.OUTSIDE);
         DUE.is("gets(0, 1, -1)", x.gets(0, 1, -1), MudBoards.OUTSIDE);
+        for (int cell = 0; cell < 12; cell++) {
+            char letter = (char) ('a' + cell);
+            x = Due.onFlat("M000000000000F" + letter + "42Lb0");
+            DUE.is("wet at " + letter, x.gets(0, 9, 1), cell < 4 ? 8 : 0);
+        }
         x = Due.onFlat("M000000000000Fd91Fh92La0");
         DUE.is("none in 2", x.gets(0, 2, 0), MudBoards.NONE);
         DUE.is("none in 2", x.gets(0, 2, 1), MudBoards.NONE);

@@ -107,7 +107,7 @@ public final class RandomRunsTest {
         if (which < 8) {
             telling(which, lark, find, cell);
         } else if (which < 14) {
-            acting(random.nextInt(12), lark, find);
+            acting(random.nextInt(13), lark, find);
         } else if (which < 20) {
             foretelling(which, lark, cell);
         } else if (which < 26) {
@@ -151,7 +151,7 @@ public final class RandomRunsTest {
             case 0, 1, 2, 3 -> DUE.is(named("walk(" + lark + ", " + way + ")"), boards.walk(lark, way), model.walk(lark, way));
             case 4 -> DUE.is(named("hour()"), boards.hour(), model.hour());
             case 5 -> DUE.is(named("put(" + lark + ")"), boards.put(lark), model.put(lark));
-            case 6 -> DUE.is(named("sell(" + lark + ")"), boards.sell(lark), model.sell(lark));
+            case 6, 12 -> DUE.is(named("sell(" + lark + ")"), boards.sell(lark), model.sell(lark));
             case 7 -> DUE.is(named("undo()"), boards.undo(), model.undo());
             default -> {
                 for (int f = 0; f < 5; f++) {

@@ -9,6 +9,7 @@ public final class ActsEdgesTest {
         larksWhoWalk();
         walkedInTheHour();
         standsOnTheCell();
+        standsByItsOwnBoard();
         ownCellDoesNotMatter();
         anHour();
         drownedByHeight();
@@ -114,6 +115,15 @@ public final class ActsEdgesTest {
                     DUE.is(flat + " walk(0, 2)", Due.onFlat(flat).walk(0, 2), stands ? 6 : MudBoards.STATE);
                 }
             }
+        }
+    }
+
+    private static void standsByItsOwnBoard() {
+        MudBoards x = Due.onFlat("M540000000000W5La0La1La2La3");
+        MudBoards y = Due.onFlat("M520000000000W5La3La2La1La0");
+        for (int lark = 0; lark < 4; lark++) {
+            DUE.is("board " + lark + " to 4", x.walk(lark, 2), lark >= 1 ? 1 : MudBoards.STATE);
+            DUE.is("board " + (3 - lark) + " to 2", y.walk(lark, 2), lark == 0 ? 1 : MudBoards.STATE);
         }
     }
 
@@ -227,6 +237,12 @@ public final class ActsEdgesTest {
         DUE.is("a drowned one, a find that there is not", x.dig(0, 2), MudBoards.UNKNOWN);
         x.hour();
         DUE.is("a drowned one, at low water", x.dig(0, 0), MudBoards.STATE);
+        for (int drowned = 0; drowned <= 1; drowned++) {
+            x = Due.onFlat(LOW + "W0W1Fb10" + (drowned == 0 ? "Lb0Lb1" : "Lb1Lb0"));
+            Due.hours(x, 2);
+            DUE.is("a drowned one, beside one that is not", x.dig(drowned, 0), MudBoards.STATE);
+            DUE.is("one that is not, beside a drowned one", x.dig(1 - drowned, 0), 1);
+        }
         DUE.is("without finds", Due.onFlat(LOW + "La0").dig(0, 0), MudBoards.UNKNOWN);
         DUE.is("without larks", Due.onFlat(LOW + "Fa10").dig(0, 0), MudBoards.UNKNOWN);
     }
@@ -410,6 +426,18 @@ public final class ActsEdgesTest {
         DUE.is("all are sold", x.count(8), 31);
         DUE.is("the other has none", x.lark(1, 2), 0);
         DUE.is("coins of all", x.count(10), 34);
+        x = Due.onFlat(LOW + "Fa10Fa20Fa30Fa40La0La0La0La0");
+        int[] all = {1, 3, 6, 10};
+        for (int lark = 0; lark < 4; lark++) {
+            x.dig(lark, lark);
+            DUE.is("by lark " + lark, x.sell(lark), lark + 1);
+            DUE.is("coins of lark " + lark, x.lark(lark, 2), lark + 1);
+            DUE.is("coins of all", x.count(10), all[lark]);
+        }
+        x.flat();
+        for (int lark = 0; lark < 4; lark++) {
+            DUE.is("when the flat is made anew: coins of lark " + lark, x.lark(lark, 2), 0);
+        }
     }
 
     private static void nothingToSell() {

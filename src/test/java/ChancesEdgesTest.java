@@ -22,6 +22,7 @@ public final class ChancesEdgesTest {
         restsRefused();
         restsOfNoMatter();
         restsOfOnePair();
+        restsOfEachPair();
         restsByAge();
         restsAlone();
         restsAsWalked();
@@ -30,6 +31,7 @@ public final class ChancesEdgesTest {
         stormsByTenths();
         stormsByHeight();
         stormsOfHoursToCome();
+        stormsOfEachLark();
         DUE.end();
     }
 
@@ -243,6 +245,15 @@ public final class ChancesEdgesTest {
         share(x, 0, 1, 1);
         x.hour();
         share(x, 0, 0, 1);
+        // two at a find, of whom the next hour drowns the one without a board
+        for (int drowned = 0; drowned <= 1; drowned++) {
+            x = Due.onFlat(LOW + "W0W1Fb10" + (drowned == 0 ? "Lb0Lb1" : "Lb1Lb0"));
+            share(x, drowned, 1, 2);
+            share(x, 1 - drowned, 1, 2);
+            Due.hours(x, 2);
+            share(x, drowned, 0, 1);
+            share(x, 1 - drowned, 1, 1);
+        }
     }
 
     private static void shareRefused() {
@@ -327,6 +338,19 @@ public final class ChancesEdgesTest {
         rests(text.toString(), Due.onFlat(text.toString()), 1, 10 * oneWay + otherWay);
     }
 
+    private static void restsOfEachPair() {
+        // f alone is dry: left of lark 0, right of 1, above 2, below 3
+        MudBoards x = Due.onFlat("M000009000000W0W9Lg0Le0Lj0Lb0");
+        for (int one = 0; one < 4; one++) {
+            for (int other = 0; other < 4; other++) {
+                boolean isPair = one != other;
+                DUE.is("rests(" + one + ", " + other + ", 0)", x.rests(one, other, 0), isPair ? 1 : MudBoards.OUTSIDE);
+                DUE.is("rests(" + one + ", " + other + ", 1)", x.rests(one, other, 1),
+                    isPair ? 10 * (one + 1) + other + 1 : MudBoards.OUTSIDE);
+            }
+        }
+    }
+
     private static boolean isWithinOne(int from, int to) {
         boolean isNear = from == to;
         for (int way = 1; way <= 4; way++) {
@@ -341,6 +365,8 @@ public final class ChancesEdgesTest {
         String apart = "M550000000005W5";
         rests("9 of b by 2 alone", Due.onFlat(apart + "Fa80Fb11Fb91La0Ll0"), 5, 20);
         rests("9 of a by staying", Due.onFlat(apart + "Fa11Fa91Fb80La0Ll0"), 4 * 5, 0);
+        rests("9 of f by staying, when the one can go each way", Due.onFlat(LOW + "Ff90Lf0Ll0"), 5, 0);
+        rests("9 of g by staying, when the other can go each way", Due.onFlat(LOW + "Fg90La0Lg0"), 5, 0);
         rests("like ages", Due.onFlat(apart + "Fa90Fb91La0Ll0"), 25, 0);
         MudBoards x = Due.onFlat(apart + "Fa80Fb91La0Ll0Lb0");
         x.dig(2, 1);
@@ -467,5 +493,13 @@ public final class ChancesEdgesTest {
         }
         storms(Due.onFlat(LOW + "La0"), 6, 1, 531441, 1000000);
         storms(Due.onFlat(LOW + "La1"), 6, 10, 1, 1);
+    }
+
+    private static void stormsOfEachLark() {
+        MudBoards x = Due.onFlat("M340000000000W5La2La3La1Lb1");
+        int[][] due = {{1, 4}, {1, 1}, {0, 1}, {1, 4}};
+        for (int lark = 0; lark < 4; lark++) {
+            fraction("storms of " + lark, x.storms(lark, 2, 5, true), x.storms(lark, 2, 5, false), due[lark]);
+        }
     }
 }

@@ -10,7 +10,7 @@ final class Due {
         this.test = test;
     }
 
-    /** What is asked from here on holds this sentence of the document, word by word; each has to be asked something. */
+    /** What is asked from here on is by this sentence of the document, in its own words; each has to be asked something. */
     void of(String words) {
         endSentence();
         sentence = words;

@@ -29,6 +29,8 @@ public final class HoursEdgesTest {
         getsWhatLies();
         getsWhatIsBared();
         getsAheadOfTheFlood();
+        getsOfEachLark();
+        getsByOnesOwnBoard();
         getsByWorth();
         getsTheLeast();
         DUE.end();
@@ -350,6 +352,55 @@ public final class HoursEdgesTest {
         x = Due.onFlat(flat + "Li0");
         x.hour();
         getsFrom(10, x, "too late for it");
+        // i is never under, e, on the way home, is under in all hours but one, then but two, of four
+        getsFrom(10, Due.onFlat("M999900009999W9W9W0W9Fi70Li0"), "an ebb that is too short for the way home");
+        getsFrom(4, Due.onFlat("M999900009999W9W9W0W0Fi70Li0"), "an ebb that is long enough, in hours 2 and 3");
+        getsFrom(3, Due.onFlat("M999900009999W9W0W0W9Fi70Li0"), "an ebb that is long enough, in hours 1 and 2");
+        x = Due.onFlat("M999900009999W9W9W0W0Fi70Li0");
+        Due.hours(x, 2);
+        getsFrom(2, x, "the same in hour 2");
+        x.hour();
+        getsFrom(5, x, "the same in hour 3, too late for the one, in time for the next");
+    }
+
+    private static void getsOfEachLark() {
+        DUE.of("GETS for a LARK and n HOURS (1 to 9)");
+        // b is for boards of 1 and more, e for those of 2 and more; each is bared in every second hour
+        MudBoards x = Due.onFlat("M540030000000W5W3Fa10Fb40Fe90La0La1La2Ld3");
+        int[][] dueInEven = {{0, 1, 1, NONE}, {0, 1, 2, NONE}, {0, 1, 2, NONE}};
+        int[][] dueInOdd = {{0, 0, 0, NONE}, {0, 1, 1, NONE}, {0, 1, 2, NONE}};
+        int[] worths = {1, 4, 9};
+        for (int hour = 0; hour < 4; hour++) {
+            for (int n = 1; n <= 9; n++) {
+                for (int lark = 0; lark < 4; lark++) {
+                    int due = (hour % 2 == 0 ? dueInEven : dueInOdd)[Math.min(n, 3) - 1][lark];
+                    due = lark == 3 && hour >= 2 ? MudBoards.STATE : due;
+                    String call = "gets(" + lark + ", " + n + ") in hour " + hour;
+                    DUE.is(call + ": which", x.gets(lark, n, 0), due);
+                    DUE.is(call + ": how much", x.gets(lark, n, 1), due < 0 ? due : worths[due]);
+                }
+            }
+            x.hour();
+        }
+    }
+
+    private static void getsByOnesOwnBoard() {
+        // e, and i behind it, are for boards of 2 and more; i is bared in every second hour
+        for (int with = 0; with < 4; with++) {
+            StringBuilder text = new StringBuilder("M500030003000W5W3Fi90");
+            for (int lark = 0; lark < 4; lark++) {
+                text.append(lark == with ? "La2" : "La1");
+            }
+            MudBoards x = Due.onFlat(text.toString());
+            for (int lark = 0; lark < 4; lark++) {
+                DUE.is(text + ": lark " + lark + " in 5", x.gets(lark, 5, 0), lark == with ? 0 : NONE);
+                DUE.is(text + ": lark " + lark + " in 4", x.gets(lark, 4, 0), NONE);
+            }
+            x.hour();
+            for (int lark = 0; lark < 4; lark++) {
+                DUE.is(text + ": lark " + lark + " in 4, an hour on", x.gets(lark, 4, 0), lark == with ? 0 : NONE);
+            }
+        }
     }
 
     private static void getsByWorth() {
@@ -387,6 +438,9 @@ public final class HoursEdgesTest {
         DUE.is("of no worth, the least", Due.onFlat(LOW + "Fe92Fa91La0").gets(0, 9, 0), 0);
         DUE.is("of no worth, the least", Due.onFlat(LOW + "Fa13Fa91La0").gets(0, 9, 0), 0);
         DUE.is("of no worth: how much", Due.onFlat(LOW + "Fa13Fa91La0").gets(0, 9, 1), 0);
+        DUE.is("wet by its own cell", Due.onFlat(LOW + "Fe92Fa42La0").gets(0, 9, 0), 1);
+        DUE.is("wet by its own cell: how much", Due.onFlat(LOW + "Fe92Fa42La0").gets(0, 9, 1), 8);
+        DUE.is("wet by its own cell", Due.onFlat(LOW + "Fa12Fe92Fa10La0").gets(0, 9, 0), 0);
         DUE.is("of some worth ahead of none", Due.onFlat(LOW + "Fa13Fa91Fa10La0").gets(0, 9, 0), 2);
     }
 }

@@ -39,7 +39,7 @@ public final class UntouchedTest {
     }
 
     private static void telling() {
-        DUE.of("What each call tells, and no more: fault, cell, find, lark, count");
+        DUE.of("the answers and state changes described above");
         touches(NOTHING, "fault()", MudBoards::fault);
         for (int what = 0; what <= 3; what++) {
             int asked = what;
@@ -78,7 +78,7 @@ public final class UntouchedTest {
     }
 
     private static void textSeenAndSeed() {
-        DUE.of("What each call changes, and no more: write, wipe, see, unsee, seed");
+        DUE.of("the answers and state changes described above");
         touches(EnumSet.of(View.TEXT), "write(87)", x -> x.write(87));
         touches(EnumSet.of(View.TEXT), "wipe()", MudBoards::wipe);
         touches(EnumSet.of(View.SEEN), "see(0, 0, 0)", x -> x.see(0, 0, 0));
@@ -87,7 +87,6 @@ public final class UntouchedTest {
     }
 
     private static void acting() {
-        DUE.of("What each call changes, and no more: walk, hour, dig, put, sell, undo");
         for (int way = 1; way <= 4; way++) {
             int to = way;
             touches(PLAY, "walk(1, " + way + ")", x -> x.walk(1, to));

@@ -385,6 +385,12 @@ public final class ChancesEdgesTest {
         rests("both there", Due.onFlat("M550000000000W5Fb90Lb0Lb0"), 4 * 4 + 4 + 4, 0);
         // 9 at b, 6 at a: one of them each
         rests("one of them each", Due.onFlat("M550000000000W5Fb90Fa60La0La0"), 4 + 4, 2);
+        MudBoards x = Due.onFlat("M550000000005W5Fb90Ll0La0La0");
+        DUE.is("a third one does not matter", x.rests(1, 2, 0), 4 + 4 + 1);
+        DUE.is("a third one does not matter", x.rests(2, 1, 1), 2);
+        DUE.is("nor who is told first", x.rests(2, 1, 0), 4 + 4 + 1);
+        x = Due.onFlat("M550000000000W5Fb90Lb0La0La0");
+        DUE.is("a third one on the cell does not matter", x.rests(1, 2, 0), 4 + 4 + 1);
         // life is 3: to be alive with another is more than to be drowned
         rests("one cell alone is dry", Due.onFlat("M050000000000W0W5Fb90La0Lc0"), 1, 21);
     }

@@ -400,6 +400,17 @@ public final class HoursEdgesTest {
             for (int lark = 0; lark < 4; lark++) {
                 DUE.is(text + ": lark " + lark + " in 4, an hour on", x.gets(lark, 4, 0), lark == with ? 0 : NONE);
             }
+            text.replace(0, 17, "M500030005000W5W5");
+            x = Due.onFlat(text.toString());
+            for (int lark = 0; lark < 4; lark++) {
+                DUE.is(text + ": lark " + lark + " in 4", x.gets(lark, 4, 0), lark == with ? 0 : NONE);
+            }
+        }
+        for (int walked = 0; walked <= 1; walked++) {
+            MudBoards x = Due.onFlat(LOW + "Fe70" + (walked == 0 ? "Lf0Le0" : "Le0Lf0"));
+            x.walk(walked, 1);
+            DUE.is("one that has walked, beside one that has not", x.gets(walked, 1, 0), NONE);
+            DUE.is("one that has not, beside one that has", x.gets(1 - walked, 1, 0), 0);
         }
     }
 

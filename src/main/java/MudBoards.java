@@ -1268,6 +1268,9 @@ public final class MudBoards {
         }
 
         private boolean isRest(int pair) {
+            if (!within(pair, 0, PAIRS - 1)) {
+                return false;
+            }
             int oneWay = pair / WAYS;
             int otherWay = pair % WAYS;
             for (int way = 0; way < WAYS; way++) {

@@ -1,11 +1,12 @@
 import java.util.ArrayList;
 import java.util.List;
 import java.util.Random;
+import java.util.function.ToLongFunction;
 
 /** Promises 1 to 31: random runs of 512 calls, each answer held against the model's; the seeds never change. */
 public final class RandomRunsTest {
     private static final Due DUE = new Due("RandomRunsTest");
-    private static final int RUNS = 400;
+    private static final int RUNS = 1500;
     private static final int CALLS = 512;
 
     private final Random random;
@@ -13,6 +14,7 @@ public final class RandomRunsTest {
     private final Model model = new Model();
     private final int run;
     private final int wild;
+    private int calls;
 
     private RandomRunsTest(int run) {
         this.run = run;
@@ -28,14 +30,21 @@ public final class RandomRunsTest {
     }
 
     private void go() {
-        int calls = 0;
+        tellFlat();
         while (calls < CALLS) {
-            if (calls == 0 || random.nextInt(90) == 0) {
-                calls += tellFlat();
+            if (random.nextInt(120) == 0) {
+                tellFlat();
             } else {
                 call(random.nextInt(31));
-                calls++;
             }
+        }
+    }
+
+    /** One call of both; none behind the 512th, as what is answered there is free. */
+    private void ask(String name, ToLongFunction<MudBoards> call, ToLongFunction<Model> due) {
+        if (calls < CALLS) {
+            calls++;
+            DUE.is("run " + run + ", call " + calls + ": " + name, call.applyAsLong(boards), due.applyAsLong(model));
         }
     }
 
@@ -85,19 +94,14 @@ public final class RandomRunsTest {
         return (char) ('a' + random.nextInt(random.nextBoolean() ? 12 : 5));
     }
 
-    private int tellFlat() {
+    private void tellFlat() {
         String text = flatText();
-        DUE.is(named("wipe()"), boards.wipe(), model.wipe());
-        for (int i = 0; i < text.length(); i++) {
-            DUE.is(named("write"), boards.write(text.charAt(i)), model.write(text.charAt(i)));
+        ask("wipe()", x -> x.wipe(), m -> m.wipe());
+        for (char letter : text.toCharArray()) {
+            ask("write(" + (int) letter + ")", x -> x.write(letter), m -> m.write(letter));
         }
-        DUE.is(named("fault() of " + text), boards.fault(), model.fault());
-        DUE.is(named("flat() of " + text), boards.flat(), model.flat());
-        return text.length() + 3;
-    }
-
-    private String named(String call) {
-        return "run " + run + ": " + call;
+        ask("fault() of " + text, x -> x.fault(), m -> m.fault());
+        ask("flat() of " + text, x -> x.flat(), m -> m.flat());
     }
 
     private void call(int which) {
@@ -122,25 +126,29 @@ public final class RandomRunsTest {
         switch (which) {
             case 0 -> {
                 int letter = number(0, 255);
-                DUE.is(named("write(" + letter + ")"), boards.write(letter), model.write(letter));
+                ask("write(" + letter + ")", x -> x.write(letter), m -> m.write(letter));
             }
-            case 1 -> DUE.is(named("fault()"), boards.fault(), model.fault());
-            case 2 -> DUE.is(named("cell(" + cell + ", " + what + ")"), boards.cell(cell, what), model.cell(cell, what));
-            case 3, 4 -> DUE.is(named("find(" + find + ", " + what + ")"), boards.find(find, what), model.find(find, what));
-            case 5, 6 -> DUE.is(named("lark(" + lark + ", " + what + ")"), boards.lark(lark, what), model.lark(lark, what));
-            default -> all();
+            case 1 -> ask("fault()", x -> x.fault(), m -> m.fault());
+            case 2 -> ask("cell(" + cell + ", " + what + ")", x -> x.cell(cell, what), m -> m.cell(cell, what));
+            case 3, 4 -> ask("find(" + find + ", " + what + ")", x -> x.find(find, what), m -> m.find(find, what));
+            case 5, 6 -> ask("lark(" + lark + ", " + what + ")", x -> x.lark(lark, what), m -> m.lark(lark, what));
+            default -> {
+                if (random.nextInt(4) == 0) {
+                    all();
+                }
+            }
         }
     }
 
     /** Everything that is told of where things stand. */
     private void all() {
-        for (int what = 0; what <= 12; what++) {
-            DUE.is(named("count(" + what + ")"), boards.count(what), model.count(what));
+        for (int what : Edge.inside(0, 12)) {
+            ask("count(" + what + ")", x -> x.count(what), m -> m.count(what));
         }
-        for (int i = 0; i < 5; i++) {
-            for (int what = 0; what <= 5; what++) {
-                DUE.is(named("find(" + i + ", " + what + ")"), boards.find(i, what), model.find(i, what));
-                DUE.is(named("lark(" + i + ", " + what + ")"), boards.lark(i, what), model.lark(i, what));
+        for (int i : Edge.inside(0, 4)) {
+            for (int what : Edge.inside(0, 5)) {
+                ask("find(" + i + ", " + what + ")", x -> x.find(i, what), m -> m.find(i, what));
+                ask("lark(" + i + ", " + what + ")", x -> x.lark(i, what), m -> m.lark(i, what));
             }
         }
     }
@@ -148,16 +156,16 @@ public final class RandomRunsTest {
     private void acting(int which, int lark, int find) {
         int way = number(1, 4);
         switch (which) {
-            case 0, 1, 2, 3 -> DUE.is(named("walk(" + lark + ", " + way + ")"), boards.walk(lark, way), model.walk(lark, way));
-            case 4 -> DUE.is(named("hour()"), boards.hour(), model.hour());
-            case 5 -> DUE.is(named("put(" + lark + ")"), boards.put(lark), model.put(lark));
-            case 6, 12 -> DUE.is(named("sell(" + lark + ")"), boards.sell(lark), model.sell(lark));
-            case 7 -> DUE.is(named("undo()"), boards.undo(), model.undo());
+            case 0, 1, 2, 3 -> ask("walk(" + lark + ", " + way + ")", x -> x.walk(lark, way), m -> m.walk(lark, way));
+            case 4 -> ask("hour()", x -> x.hour(), m -> m.hour());
+            case 5 -> ask("put(" + lark + ")", x -> x.put(lark), m -> m.put(lark));
+            case 6, 12 -> ask("sell(" + lark + ")", x -> x.sell(lark), m -> m.sell(lark));
+            case 7 -> ask("undo()", x -> x.undo(), m -> m.undo());
             default -> {
-                for (int f = 0; f < 5; f++) {
-                    DUE.is(named("dig(" + lark + ", " + f + ")"), boards.dig(lark, f), model.dig(lark, f));
+                for (int f : Edge.inside(0, 4)) {
+                    ask("dig(" + lark + ", " + f + ")", x -> x.dig(lark, f), m -> m.dig(lark, f));
                 }
-                DUE.is(named("dig(" + lark + ", " + find + ")"), boards.dig(lark, find), model.dig(lark, find));
+                ask("dig(" + lark + ", " + find + ")", x -> x.dig(lark, find), m -> m.dig(lark, find));
             }
         }
     }
@@ -168,19 +176,24 @@ public final class RandomRunsTest {
         switch (which) {
             case 14 -> {
                 int far = number(0, 20);
-                DUE.is(named("bared(" + far + ")"), boards.bared(far), model.bared(far));
+                ask("bared(" + far + ")", x -> x.bared(far), m -> m.bared(far));
             }
-            case 15 -> DUE.is(named("flooded(" + cell + ")"), boards.flooded(cell), model.flooded(cell));
-            case 16 -> DUE.is(named("reach(" + lark + ", " + n + ")"), boards.reach(lark, n), model.reach(lark, n));
-            case 17 -> DUE.is(named("home(" + lark + ")"), boards.home(lark), model.home(lark));
-            case 18 -> DUE.is(named("gets(" + lark + ", " + n + ", " + what + ")"),
-                boards.gets(lark, n, what), model.gets(lark, n, what));
+            case 15 -> ask("flooded(" + cell + ")", x -> x.flooded(cell), m -> m.flooded(cell));
+            case 16 -> ask("reach(" + lark + ", " + n + ")", x -> x.reach(lark, n), m -> m.reach(lark, n));
+            case 17 -> ask("home(" + lark + ")", x -> x.home(lark), m -> m.home(lark));
+            case 18 -> ask("gets(" + lark + ", " + n + ", " + what + ")",
+                x -> x.gets(lark, n, what), m -> m.gets(lark, n, what));
             default -> judging();
         }
     }
 
     private void judging() {
         int n = number(1, 4);
+        long row = doings(n);
+        ask("judge(" + n + ", " + row + ")", x -> x.judge(n, row), m -> m.judge(n, row));
+    }
+
+    private long doings(int n) {
         long row = 0;
         for (int i = 0; i < Math.min(4, Math.max(1, n)); i++) {
             int lark = random.nextInt(3);
@@ -192,7 +205,7 @@ public final class RandomRunsTest {
             long[] odd = {-1, Long.MIN_VALUE, Long.MAX_VALUE, 1000, 1000000, 1000000000, 1000000000000L, random.nextLong()};
             row = odd[random.nextInt(odd.length)];
         }
-        DUE.is(named("judge(" + n + ", " + row + ")"), boards.judge(n, row), model.judge(n, row));
+        return row;
     }
 
     private void chances(int which, int lark, int cell) {
@@ -202,26 +215,26 @@ public final class RandomRunsTest {
         switch (which) {
             case 20 -> {
                 int n = number(0, 9);
-                DUE.is(named("see(" + cell + ", " + n + ", " + what + ")"), boards.see(cell, n, what), model.see(cell, n, what));
-                DUE.is(named("phases()"), boards.phases(), model.phases());
+                ask("see(" + cell + ", " + n + ", " + what + ")", x -> x.see(cell, n, what), m -> m.see(cell, n, what));
+                ask("phases()", x -> x.phases(), m -> m.phases());
             }
             case 21 -> {
                 if (random.nextInt(5) == 0) {
-                    DUE.is(named("unsee()"), boards.unsee(), model.unsee());
+                    ask("unsee()", x -> x.unsee(), m -> m.unsee());
                 }
-                DUE.is(named("phases()"), boards.phases(), model.phases());
+                ask("phases()", x -> x.phases(), m -> m.phases());
             }
             case 22 -> {
-                DUE.is(named("share(" + lark + ", true)"), boards.share(lark, true), model.share(lark, true));
-                DUE.is(named("share(" + lark + ", false)"), boards.share(lark, false), model.share(lark, false));
+                ask("share(" + lark + ", true)", x -> x.share(lark, true), m -> m.share(lark, true));
+                ask("share(" + lark + ", false)", x -> x.share(lark, false), m -> m.share(lark, false));
             }
-            case 23, 24 -> DUE.is(named("rests(" + lark + ", " + other + ", " + what + ")"),
-                boards.rests(lark, other, what), model.rests(lark, other, what));
+            case 23, 24 -> ask("rests(" + lark + ", " + other + ", " + what + ")",
+                x -> x.rests(lark, other, what), m -> m.rests(lark, other, what));
             default -> {
                 int n = number(1, 6);
-                int x = number(0, 10);
-                DUE.is(named("storms(" + lark + ", " + n + ", " + x + ", " + upper + ")"),
-                    boards.storms(lark, n, x, upper), model.storms(lark, n, x, upper));
+                int tenths = number(0, 10);
+                ask("storms(" + lark + ", " + n + ", " + tenths + ", " + upper + ")",
+                    x -> x.storms(lark, n, tenths, upper), m -> m.storms(lark, n, tenths, upper));
             }
         }
     }
@@ -231,21 +244,21 @@ public final class RandomRunsTest {
         switch (which) {
             case 26 -> {
                 long v = random.nextLong();
-                DUE.is(named("seed(" + v + ")"), boards.seed(v), model.seed(v));
+                ask("seed(" + v + ")", x -> x.seed(v), m -> m.seed(v));
             }
             case 27 -> {
-                int m = number(1, 30);
-                DUE.is(named("springs(" + m + ")"), boards.springs(m), model.springs(m));
+                int times = number(1, 30);
+                ask("springs(" + times + ")", x -> x.springs(times), m -> m.springs(times));
             }
-            case 28 -> DUE.is(named("keep(" + slot + ")"), boards.keep(slot), model.keep(slot));
+            case 28 -> ask("keep(" + slot + ")", x -> x.keep(slot), m -> m.keep(slot));
             case 29 -> {
                 if (random.nextInt(4) == 0) {
-                    DUE.is(named("again(" + slot + ")"), boards.again(slot), model.again(slot));
+                    ask("again(" + slot + ")", x -> x.again(slot), m -> m.again(slot));
                 }
             }
             default -> {
                 int what = number(0, 12);
-                DUE.is(named("count(" + what + ")"), boards.count(what), model.count(what));
+                ask("count(" + what + ")", x -> x.count(what), m -> m.count(what));
             }
         }
     }

@@ -15,7 +15,6 @@ public final class TellingEdgesTest {
         whatOfALark();
         whatIsCounted();
         countedAtTheMost();
-        upToTheLastCall();
         DUE.end();
     }
 
@@ -240,21 +239,5 @@ public final class TellingEdgesTest {
         Due.hours(x, 1);
         DUE.is("acts", x.count(11), 14);
         DUE.is("the hour", x.count(4), 6);
-    }
-
-    private static void upToTheLastCall() {
-        DUE.of("An object is used for at most 512 calls after it has been made");
-        MudBoards x = new MudBoards();
-        for (int call = 1; call <= 511; call++) {
-            DUE.is("call " + call + ": hour()", x.hour(), 0);
-        }
-        DUE.is("call 512: the hour", x.count(4), 511);
-        x = new MudBoards();
-        Due.tell(x, "M055555555555W0W1W2W3W4W5La0");
-        x.flat();
-        for (int call = 30; call <= 511; call++) {
-            x.hour();
-        }
-        DUE.is("call 512: bared(20) in hour 482", x.bared(20), 0xffe);
     }
 }

@@ -5,6 +5,7 @@ import com.sun.source.tree.LineMap;
 import com.sun.source.tree.MemberSelectTree;
 import com.sun.source.tree.MethodInvocationTree;
 import com.sun.source.tree.MethodTree;
+import com.sun.source.tree.NewArrayTree;
 import com.sun.source.tree.NewClassTree;
 import com.sun.source.tree.Tree;
 import com.sun.source.tree.VariableTree;
@@ -35,7 +36,7 @@ public final class LanguageTest extends TreeScanner<Void, Void> {
         Tree.Kind.SYNCHRONIZED, Tree.Kind.ASSERT, Tree.Kind.LAMBDA_EXPRESSION, Tree.Kind.MEMBER_REFERENCE,
         Tree.Kind.IMPORT, Tree.Kind.PACKAGE, Tree.Kind.DOUBLE_LITERAL, Tree.Kind.FLOAT_LITERAL);
     private static final Set<String> LIBRARY = Set.of("Integer.bitCount", "Math.max", "Math.min", "Math.abs",
-        "System.arraycopy", "Arrays.fill", "Arrays.copyOf");
+        "System.arraycopy", "Arrays.fill");
 
     private final CompilationUnitTree unit;
     private final SourcePositions positions;
@@ -170,6 +171,7 @@ public final class LanguageTest extends TreeScanner<Void, Void> {
         Tree chosen = tree.getMethodSelect();
         String name = chosen instanceof MemberSelectTree m ? m.getIdentifier().toString() : chosen.toString();
         calls.computeIfAbsent(method, n -> new HashSet<>()).add(name);
+        DUE.is(method + " makes a copy by clone", name.equals("clone") ? 1 : 0, 0);
         if (chosen instanceof MemberSelectTree m && m.getExpression() instanceof IdentifierTree on
                 && Character.isUpperCase(on.getName().charAt(0))) {
             DUE.is(chosen + " is of the library that is let", LIBRARY.contains(chosen.toString()) ? 1 : 0, 1);
@@ -182,5 +184,12 @@ public final class LanguageTest extends TreeScanner<Void, Void> {
         DUE.is("no body of a new " + tree.getIdentifier(), tree.getClassBody() == null ? 1 : 0, 1);
         DUE.is("objects are made in the constructor alone, not in " + method, method.equals("<init>") ? 1 : 0, 1);
         return super.visitNewClass(tree, p);
+    }
+
+    @Override
+    public Void visitNewArray(NewArrayTree tree, Void p) {
+        DUE.is("arrays are made with the object alone, not in " + method,
+            inClassBody || method.equals("<init>") ? 1 : 0, 1);
+        return super.visitNewArray(tree, p);
     }
 }
